@@ -528,11 +528,13 @@ public final class LoveGlass {
 
     /** One SAYING more, misheard by x tenths: the chances of the stages, all of them ten times as many parts. */
     private void hear(int sort, int x) {
-        for (int stage = DECLARED; stage >= 0; stage--) {
+        for (int stage = chances.length - 1; stage >= 0; stage--) {
             int next = stageBehind(stage, sort);
             int heard = chances[stage] * (TENTHS - x);
             chances[stage] *= x;
-            chances[next] += heard;
+            if (next < chances.length) {
+                chances[next] += heard;
+            }
         }
     }
 

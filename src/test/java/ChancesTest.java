@@ -161,7 +161,64 @@ public final class ChancesTest {
         weekIs("6 drawn from a declaration", new int[] {0, 1, 2}, 27, 0);
         weekIs("turned anew", new int[] {0, 1, 2}, 0, 0);
         weekIs("the last pair turned", new int[] {0, 1, 2}, 15, 0);
+        drawnInWeek();
+        turnedInWeek();
         many();
+    }
+
+    /** A seed by which the first weeks' doings are these. */
+    private static long seedBeforeAll(int... doings) {
+        for (long low = 0; low < 10000000; low++) {
+            long seed = low * 7046029254386353131L;
+            long x = seed;
+            int place = 0;
+            while (place < doings.length) {
+                x = x * 6364136223846793005L + 1442695040888963407L;
+                if ((x >>> 33) % 28 != doings[place]) {
+                    break;
+                }
+                place++;
+            }
+            if (place == doings.length) {
+                return seed;
+            }
+        }
+        throw new IllegalStateException("no such seed");
+    }
+
+    /** What is drawn is 1 to 6: an ask that takes as much as is left then can be said, one that takes more can not. */
+    private static void drawnInWeek() {
+        for (int n = 1; n <= 6; n++) {
+            for (int more = 0; more <= 1; more++) {
+                LoveGlass x = Due.port("EG10S10Y111Y112Y" + (8 - n + more) + "13");
+                x.turn(0, 0);
+                x.say(0);
+                x.say(1);
+                x.seed(seedBeforeAll(21 + n, 18));
+                due.due(n + " drawn, " + more + " too much", x.weeks(2), 1 - more);
+            }
+        }
+    }
+
+    /** Who is turned for in which glass: the declaration behind it can be said, or not. */
+    private static void turnedInWeek() {
+        int[] can = {15, 1, 15, 11};
+        for (int doing = 0; doing < 16; doing++) {
+            LoveGlass x = Due.port(PORT);
+            x.seed(seedBeforeAll(doing, 16, 17, 18));
+            due.due("turned by " + doing, x.weeks(4), can[doing / 4] >> doing % 4 & 1);
+            x.turn(0, 0);
+            x.say(0);
+            x.say(1);
+            x.seed(seedBeforeAll(doing, 18));
+            due.due("nothing is said behind a turn by " + doing, x.weeks(2), 0);
+            x = Due.port("EG20S10Y111Y112Y113");
+            x.turn(0, 0);
+            x.say(0);
+            x.say(1);
+            x.seed(seedBeforeAll(doing, 18));
+            due.due("one glass, one suitor, turned by " + doing, x.weeks(2), doing == 0 ? 0 : 1);
+        }
     }
 
     /** Weeks by many seeds, told by the model as well. */

@@ -54,6 +54,13 @@ public final class DeclarationsTest {
         x = Due.port("EG10S10Y221Y222Y223Y440Y440");
         x.turn(0, 0);
         warmestIs("of like ones the least", x, 10, 1234);
+        x = Due.port("EG10S10Y221Y222Y223Y110Y210Y320");
+        x.turn(0, 0);
+        x.draw(1);
+        warmestIs("of like ones the least is the shorter", x, 8, 1236);
+        x = Due.port("EG90S11Y110Y110Y111Y112Y113");
+        x.turn(0, 0);
+        warmestIs("what takes nothing comes in the least order", x, 5, 12345);
         x = Due.port("EG30S10Y113Y112Y111Y100");
         x.turn(0, 0);
         warmestIs("no warmth, no grain more", x, 3, 321);

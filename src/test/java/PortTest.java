@@ -58,12 +58,12 @@ public final class PortTest {
 
     private static void promise4() {
         String[] texts = {"", "E", "X", "e", "EG", "EG1", "EG10", "EG0", "EG:", "EG/", "EG9", "EG14", "EG1/", "EG93", "ES", "ES0",
-            "ES5", "ES43", "ES44", "ES4", "EY", "EY0", "EY1", "EY10", "EY100", "EY993", "EY994", "EY1:", "EY1A0", "EE", "EA", "E1",
+            "ES5", "ES43", "ES44", "ES4", "EY", "EY0", "EY1", "EY10", "EY100", "EY993", "EY994", "EY1:", "EY:", "EY1A0", "EE", "EA", "E1",
             "EG10X", "EG10E", "EG10G", "Eg10", "EY100S10G10", "EG1 0", "G10", LONGEST, LONGEST + "G", LONGEST + "S",
             LONGEST + "Y", LONGEST + "E", "EG10G10G10G10G10", "ES10S10S10S10S", "EY100Y100Y100Y100Y100Y100Y100",
             "EG10G10G10G10S", "EXG0", "\u00c5"};
         int[] faults = {0, -9, 0, 0, 2, 3, -9, 2, 2, 2, 3, 3, 3, -9, 2, 2,
-            2, -9, 3, 3, 2, 2, 3, 4, -9, -9, 4, 3, 3, 1, 1, 1,
+            2, -9, 3, 3, 2, 2, 3, 4, -9, -9, 4, 3, 2, 3, 1, 1, 1,
             4, 4, 5, 1, -9, 3, 0, -9, 49, 49,
             49, 49, 13, 13, 25,
             14, 1, 0};
@@ -102,6 +102,7 @@ public final class PortTest {
         due.due("port() that is refused changes nothing", Due.seen(x), was);
         due.due("what was kept is there", x.again(1), 19);
         x.turn(0, 0);
+        x.say(2);
         Due.tell(x, "EY211S13G12");
         due.due("port() anew", x.port(), 111);
         int[] all = {1, 1, 1, -9, -9, 0, 0, 0, 0, 0, 0, 1, 11};
@@ -116,6 +117,22 @@ public final class PortTest {
         due.due("anew: glass(0, 2)", x.glass(0, 2), 15);
         due.due("anew: glass(1, 2)", x.glass(1, 2), -1);
         due.due("the same once more", x.port(), 111);
+        anew(x);
+    }
+
+    /** Port upon port in one object: nothing of an earlier one is left. */
+    private static void anew(LoveGlass x) {
+        for (int k = 0; k < 4; k++) {
+            Due.tell(x, "EG" + (k + 1) + k + "S" + (4 - k) + (3 - k) + "Y" + (9 - k) + (k + 5) + k);
+            due.due("port " + k, x.port(), 111);
+            due.due("its sand", x.glass(0, 0), k + 1);
+            due.due("its glass's kind", x.glass(0, 1), k);
+            due.due("its pace", x.suitor(0, 0), 4 - k);
+            due.due("its suitor's kind", x.suitor(0, 1), 3 - k);
+            due.due("its letters", x.saying(0, 0), 9 - k);
+            due.due("its warmth", x.saying(0, 1), k + 5);
+            due.due("its sort", x.saying(0, 2), k);
+        }
     }
 
     private static void promise6() {

@@ -32,7 +32,7 @@ public final class TimedTest {
     private static void promise25() {
         LoveGlass x = Due.port("EY310Y391");
         due.due("none", x.untime(), 0);
-        x.time(0, 0, 1, 9);
+        x.time(1, 3, 2, 9);
         x.time(0, 1, 1, 9);
         due.due("kinds ahead", x.kinds(), 0);
         due.due("two", x.untime(), 2);
