@@ -5,10 +5,10 @@ public final class ChancesTest {
     private static final Due due = new Due();
 
     private static void restsAre(String where, LoveGlass x, int one, int other, int many, int first) {
-        String was = Due.seen(x);
+        String was = Due.run(x);
         due.due(where + ": rests(" + one + ", " + other + ", 0)", x.rests(one, other, 0), many);
         due.due(where + ": rests(" + one + ", " + other + ", 1)", x.rests(one, other, 1), first);
-        due.due(where + ": rests changes nothing", Due.seen(x), was);
+        due.due(where + ": rests changes nothing", Due.run(x), was);
     }
 
     private static void promise27() {
@@ -56,10 +56,10 @@ public final class ChancesTest {
     }
 
     private static void misheardIs(LoveGlass x, int tenths, int above, int below) {
-        String was = Due.seen(x);
+        String was = Due.run(x);
         due.due("misheard(" + tenths + ", true)", x.misheard(tenths, true), above);
         due.due("misheard(" + tenths + ", false)", x.misheard(tenths, false), below);
-        due.due("misheard changes nothing", Due.seen(x), was);
+        due.due("misheard changes nothing", Due.run(x), was);
     }
 
     private static void promise28() {
@@ -116,16 +116,6 @@ public final class ChancesTest {
         due.due("no act", x.about(10), 0);
     }
 
-    /** The seed by which the first week's upper 31 bits are a number. */
-    private static long seedBefore(long upper) {
-        long factor = 6364136223846793005L;
-        long inverse = 1;
-        for (int i = 0; i < 64; i++) {
-            inverse *= 2 - factor * inverse;
-        }
-        return ((upper << 33) - 1442695040888963407L) * inverse;
-    }
-
     /** One week's doing behind sayings in glass 0 for suitor 0. */
     private static void weekIs(String where, int[] said, long upper, int often) {
         LoveGlass x = Due.port(PORT);
@@ -133,10 +123,10 @@ public final class ChancesTest {
         for (int saying : said) {
             x.say(saying);
         }
-        x.seed(seedBefore(upper));
+        x.seed(Seeds.beforeUpper(upper));
         String was = Due.seen(x);
         due.due(where, x.weeks(1), often);
-        due.due(where + ": the seed", x.seed(seedBefore(upper)), upper << 33);
+        due.due(where + ": the seed", x.seed(Seeds.beforeUpper(upper)), upper << 33);
         due.due(where + ": nothing else is changed", Due.seen(x), was);
     }
 
@@ -166,26 +156,6 @@ public final class ChancesTest {
         many();
     }
 
-    /** A seed by which the first weeks' doings are these. */
-    private static long seedBeforeAll(int... doings) {
-        for (long low = 0; low < 10000000; low++) {
-            long seed = low * 7046029254386353131L;
-            long x = seed;
-            int place = 0;
-            while (place < doings.length) {
-                x = x * 6364136223846793005L + 1442695040888963407L;
-                if ((x >>> 33) % 28 != doings[place]) {
-                    break;
-                }
-                place++;
-            }
-            if (place == doings.length) {
-                return seed;
-            }
-        }
-        throw new IllegalStateException("no such seed");
-    }
-
     /** What is drawn is 1 to 6: an ask that takes as much as is left then can be said, one that takes more can not. */
     private static void drawnInWeek() {
         for (int n = 1; n <= 6; n++) {
@@ -194,7 +164,7 @@ public final class ChancesTest {
                 x.turn(0, 0);
                 x.say(0);
                 x.say(1);
-                x.seed(seedBeforeAll(21 + n, 18));
+                x.seed(Seeds.beforeAll(21 + n, 18));
                 due.due(n + " drawn, " + more + " too much", x.weeks(2), 1 - more);
             }
         }
@@ -205,18 +175,18 @@ public final class ChancesTest {
         int[] can = {15, 1, 15, 11};
         for (int doing = 0; doing < 16; doing++) {
             LoveGlass x = Due.port(PORT);
-            x.seed(seedBeforeAll(doing, 16, 17, 18));
+            x.seed(Seeds.beforeAll(doing, 16, 17, 18));
             due.due("turned by " + doing, x.weeks(4), can[doing / 4] >> doing % 4 & 1);
             x.turn(0, 0);
             x.say(0);
             x.say(1);
-            x.seed(seedBeforeAll(doing, 18));
+            x.seed(Seeds.beforeAll(doing, 18));
             due.due("nothing is said behind a turn by " + doing, x.weeks(2), 0);
             x = Due.port("EG20S10Y111Y112Y113");
             x.turn(0, 0);
             x.say(0);
             x.say(1);
-            x.seed(seedBeforeAll(doing, 18));
+            x.seed(Seeds.beforeAll(doing, 18));
             due.due("one glass, one suitor, turned by " + doing, x.weeks(2), doing == 0 ? 0 : 1);
         }
     }

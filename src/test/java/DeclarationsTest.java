@@ -5,17 +5,17 @@ public final class DeclarationsTest {
     private static final Due due = new Due();
 
     private static void warmestIs(String where, LoveGlass x, int warmth, int row) {
-        String was = Due.seen(x);
+        String was = Due.run(x);
         due.due(where + ": warmest(false)", x.warmest(false), warmth);
         due.due(where + ": warmest(true)", x.warmest(true), row);
-        due.due(where + ": warmest changes nothing", Due.seen(x), was);
+        due.due(where + ": warmest changes nothing", Due.run(x), was);
     }
 
     private static void shortestIs(String where, LoveGlass x, int grains, int row) {
-        String was = Due.seen(x);
+        String was = Due.run(x);
         due.due(where + ": shortest(false)", x.shortest(false), grains);
         due.due(where + ": shortest(true)", x.shortest(true), row);
-        due.due(where + ": shortest changes nothing", Due.seen(x), was);
+        due.due(where + ": shortest changes nothing", Due.run(x), was);
     }
 
     private static void promise17() {
@@ -195,9 +195,9 @@ public final class DeclarationsTest {
     }
 
     private static void judged(LoveGlass x, int n, int row, int want) {
-        String was = Due.seen(x);
+        String was = Due.run(x);
         due.due("judge(" + n + ", " + row + ")", x.judge(n, row), want);
-        due.due("judge changes nothing", Due.seen(x), was);
+        due.due("judge changes nothing", Due.run(x), was);
     }
 
     private static void promise22() {
@@ -218,6 +218,7 @@ public final class DeclarationsTest {
         judged(x, 1, 30, 0);
         judged(x, 1, 40, -9);
         judged(x, 1, 41, 0);
+        x = Due.port(PORT);
         x.turn(0, 0);
         judged(x, 4, 10230, -9);
         judged(x, 4, 1020030, 3);
@@ -247,6 +248,7 @@ public final class DeclarationsTest {
         judged(x, 4, 29291004, 3);
         judged(x, 4, 29292910, 3);
         judged(x, 3, 292929, -9);
+        x = Due.port(PORT);
         x.turn(3, 0);
         judged(x, 4, 29291010, -9);
         judged(x, 4, 29292910, 2);
@@ -263,10 +265,10 @@ public final class DeclarationsTest {
     }
 
     private static void shareIs(LoveGlass x, int saying, int above, int below) {
-        String was = Due.seen(x);
+        String was = Due.run(x);
         due.due("share(" + saying + ", true)", x.share(saying, true), above);
         due.due("share(" + saying + ", false)", x.share(saying, false), below);
-        due.due("share changes nothing", Due.seen(x), was);
+        due.due("share changes nothing", Due.run(x), was);
     }
 
     private static void promise23() {

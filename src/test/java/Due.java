@@ -2,27 +2,44 @@
 final class Due {
     private int right;
     private int wrong;
+    private int sentences;
+    private int answersOfSentence;
+    private String sentence = "";
 
     void due(String call, long got, long want) {
-        if (got == want) {
-            right++;
-        } else {
-            wrong++;
-            System.out.println(call + " answered " + got + ", due is " + want);
-        }
+        due(call, String.valueOf(got), String.valueOf(want));
     }
 
-    void due(String what, String got, String want) {
+    void due(String call, String got, String want) {
+        answersOfSentence++;
         if (got.equals(want)) {
             right++;
         } else {
             wrong++;
-            System.out.println(what + " was " + got + ", due is " + want);
+            String of = sentence.isEmpty() ? "" : " [" + sentence + "]";
+            System.out.println(call + " answered " + got + ", due is " + want + of);
+        }
+    }
+
+    /** The sentence of the document to which the answers to come belong; each has to be looked at. */
+    void under(String words) {
+        endSentence();
+        sentence = words;
+        sentences++;
+        answersOfSentence = 0;
+    }
+
+    private void endSentence() {
+        if (!sentence.isEmpty() && answersOfSentence == 0) {
+            wrong++;
+            System.out.println("nothing was looked at [" + sentence + "]");
         }
     }
 
     void end() {
-        System.out.println(right + " answers are as due, " + wrong + " are not");
+        endSentence();
+        String of = sentences == 0 ? "" : ", of " + sentences + " sentences";
+        System.out.println(right + " answers are as due, " + wrong + " are not" + of);
         if (wrong != 0 || right == 0) {
             System.exit(1);
         }
@@ -47,6 +64,11 @@ final class Due {
         LoveGlass x = told(text);
         x.port();
         return x;
+    }
+
+    /** What runs, in few calls: an object is used for at most 512. */
+    static String run(LoveGlass x) {
+        return x.about(3) + " " + x.about(4) + " " + x.about(5) + " " + x.about(7) + " " + x.about(10);
     }
 
     /** All that can be seen of an object without changing it, but for what hangs on an argument. */

@@ -63,6 +63,26 @@ public final class LanguageTest {
             due.due("static and private: " + inside, Modifier.isStatic(how) && Modifier.isPrivate(how) ? 1 : 0, 1);
             methodsInside(inside, open);
         }
+        due.due("at most twelve classes", LoveGlass.class.getDeclaredClasses().length + 1 <= 12 ? 1 : 0, 1);
+        fields(LoveGlass.class);
+        for (Class<?> inside : LoveGlass.class.getDeclaredClasses()) {
+            fields(inside);
+        }
+    }
+
+    /** At most twenty fields beside constants; constants are final numbers, texts or rows of numbers. */
+    private static void fields(Class<?> of) {
+        Set<String> constants = Set.of("int", "long", "boolean", "char", "java.lang.String", "[I", "[J", "[C", "[B");
+        int many = 0;
+        for (Field field : of.getDeclaredFields()) {
+            if (Modifier.isStatic(field.getModifiers())) {
+                boolean may = Modifier.isFinal(field.getModifiers()) && constants.contains(field.getType().getName());
+                due.due("a constant: " + field, may ? 1 : 0, 1);
+            } else {
+                many++;
+            }
+        }
+        due.due("at most twenty fields: " + of, many <= 20 ? 1 : 0, 1);
     }
 
     private static void methodsInside(Class<?> inside, Set<String> open) {
