@@ -261,12 +261,32 @@ public final class BoundsChancesTest {
             LoveGlass x = seeded(Seeds.beforeAll(doing, 16, 17, 18), Made.left(0, Made.turned(PORT, 0, 0, 0)));
             due.due("turned by " + doing + ", then name, vow, ask", x.weeks(4), can[doing / 4] >> doing % 4 & 1);
         }
+        due.under("WEEKS: 0 .. 15: that GLASS and that SUITOR, no other ones");
+        for (int doing = 0; doing < 16; doing++) {
+            long seed = Seeds.beforeAll(doing, 16, 17, 18);
+            for (int which = 0; which < 4; which++) {
+                // 15 of 20; 21 in a CRACKED one, 30 by PACE 2.
+                LoveGlass x = seeded(seed, Made.port(portBut(which, 'G')));
+                due.due("turned by " + doing + ", GLASS " + which + " is CRACKED", x.weeks(4), doing / 4 == which ? 0 : 1);
+                x = seeded(seed, Made.port(portBut(which, 'S')));
+                due.due("turned by " + doing + ", SUITOR " + which + " is slow", x.weeks(4), doing % 4 == which ? 0 : 1);
+            }
+        }
         due.under("WEEKS: no GLASS runs: one is TURNED first");
         LoveGlass x = seeded(Seeds.beforeAll(0, 16, 17, 18), Made.port(PORT));
         due.due("weeks(4)", x.weeks(4), 1);
         due.due("none runs behind it", x.about(3), -9);
         x = seeded(Seeds.beforeAll(16, 17, 18), Made.port(PORT));
         due.due("weeks(3) with none", x.weeks(3), 0);
+    }
+
+    /** Four glasses and four suitors alike, but for one of them. */
+    private static String portBut(int which, char part) {
+        StringBuilder port = new StringBuilder("E");
+        for (int i = 0; i < 4; i++) {
+            port.append(i == which && part == 'G' ? "G21" : "G20").append(i == which && part == 'S' ? "S20" : "S10");
+        }
+        return port.append("Y511Y512Y513").toString();
     }
 
     private static void weekSayings() {
