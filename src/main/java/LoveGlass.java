@@ -516,14 +516,19 @@ public final class LoveGlass {
         if (x < 0 || x > TENTHS) {
             return BAD;
         }
-        Arrays.fill(chances, 0);
-        chances[0] = 1;
+        for (int stage = 0; stage < chances.length; stage++) {
+            chances[stage] = stage == 0 ? 1 : 0;
+        }
         int below = 1;
         for (int place = 0; place < now.size(); place++) {
             hear(port.sort.at(now.row.at(place)), x);
             below *= TENTHS;
         }
-        return fraction(chances[DECLARED], below, upper);
+        return fraction(chanceOf(DECLARED), below, upper);
+    }
+
+    private int chanceOf(int stage) {
+        return stage >= 0 && stage < chances.length ? chances[stage] : 0;
     }
 
     /** One SAYING more, misheard by x tenths: the chances of the stages, all of them ten times as many parts. */
@@ -532,7 +537,7 @@ public final class LoveGlass {
             int next = stageBehind(stage, sort);
             int heard = chances[stage] * (TENTHS - x);
             chances[stage] *= x;
-            if (next < chances.length) {
+            if (next >= 0 && next < chances.length) {
                 chances[next] += heard;
             }
         }
@@ -1106,9 +1111,10 @@ public final class LoveGlass {
             for (int set = 0; set < worth.length; set++) {
                 int most = reaches(set) ? port.warmthOf(set) : 0;
                 for (int saying = 0; saying < MOST_SAYINGS; saying++) {
+                    int without = set & ~(1 << saying);
                     // Without a saying that is in it, a set's number is less: its worth stands already.
-                    if (isIn(set, saying)) {
-                        most = Math.max(most, worth[set & ~(1 << saying)]);
+                    if (without >= 0 && without < set) {
+                        most = Math.max(most, worth[without]);
                     }
                 }
                 worth[set] = most;
@@ -1118,7 +1124,10 @@ public final class LoveGlass {
         /** By how much a set's WARMEST is more when a SAYING comes to it. */
         int gainOf(int set, int saying) {
             int with = set | 1 << saying;
-            return set < 0 || with < 0 || with >= worth.length ? 0 : worth[with] - worth[set];
+            if (set < 0 || set >= worth.length || with < 0 || with >= worth.length) {
+                return 0;
+            }
+            return worth[with] - worth[set];
         }
     }
 }
